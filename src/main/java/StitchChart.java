@@ -922,11 +922,13 @@ public final class StitchChart {
 
         /** How many cells of the colors the page shows that belong to it, or that only are repeated. */
         int tally(int page, boolean belongs, int leastColor, int mostColor) {
-            int right = left(page) + shownColumns(page);
-            int bottom = top(page) + shownLines(page);
+            int left = left(page);
+            int top = top(page);
+            int right = Math.min(left + columns, grid.width);
+            int bottom = Math.min(top + lines, grid.height);
             int found = 0;
-            for (int y = top(page); y < bottom; y++) {
-                for (int x = left(page); x < right; x++) {
+            for (int y = top; y < bottom; y++) {
+                for (int x = left; x < right; x++) {
                     boolean owned = owner(x, y) == page;
                     if (owned == belongs && isWithin(grid.colorAt(x, y), leastColor, mostColor)) {
                         found++;

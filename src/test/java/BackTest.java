@@ -122,9 +122,33 @@ public final class BackTest {
         dueBacks("a square", chart, 10, 2, 4, 440, 6);
         chart.setThread(60, 0);
         dueBacks("without a tail", chart, 10, 2, 4, 200, 6);
+        dueUpwards();
+        dueAtTheEnds();
         StitchChart corner = Due.chart("a.", ".a");
         corner.outline(1);
         dueBacks("squares that share a point", corner, 8, 1, 1, 220, 0);
+    }
+
+    /** Seen from its first point, the group goes down and comes up again. */
+    private static void dueUpwards() {
+        StitchChart chart = new StitchChart();
+        chart.setBack(2, 1, true, true);
+        chart.setBack(2, 2, true, true);
+        chart.setBack(2, 3, false, true);
+        chart.setBack(3, 2, true, true);
+        chart.setBack(3, 1, true, true);
+        chart.setBack(3, 1, false, true);
+        chart.setBack(1, 3, false, true);
+        dueBacks("down and up", chart, 7, 1, 2, 260, 4);
+    }
+
+    private static void dueAtTheEnds() {
+        StitchChart chart = new StitchChart();
+        chart.setBack(10, 6, true, true);
+        chart.setBack(10, 7, true, true);
+        chart.setBack(8, 8, false, true);
+        chart.setBack(0, 7, true, true);
+        dueBacks("at the ends of the chart", chart, 4, 3, 3, 260, 6);
     }
 
     private static void backsRefusesWrongValues() {

@@ -20,6 +20,7 @@ public final class CellTest {
         StitchChart chart = new StitchChart();
         chart.fill(0, 0, 10, 8, 2);
         chart.outline(2);
+        Due.be("runs before", chart.count(2, 2), 8);
         chart.setThread(70, 20);
         chart.setPages(5, 4, 2);
         Due.type(chart, "2a");

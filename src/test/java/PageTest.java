@@ -57,6 +57,11 @@ public final class PageTest {
 
     private static void cellsBelongToTheFirstPage() {
         StitchChart chart = new StitchChart();
+        for (int color = 1; color <= 6; color++) {
+            chart.setCell(7, 0, color);
+            Due.be("repeated stitch of color " + color, chart.page(1, 5), 1);
+        }
+        Due.be("cells of the page", chart.page(1, 4), 12);
         Due.be("pageOf(7, 5)", chart.pageOf(7, 5), 0);
         Due.be("pageOf(8, 5)", chart.pageOf(8, 5), 1);
         Due.be("pageOf(7, 6)", chart.pageOf(7, 6), 2);

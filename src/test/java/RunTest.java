@@ -179,7 +179,7 @@ public final class RunTest {
         StitchChart chart = Due.chart("a.a.a.a");
         Due.be("shorten of the shortest", chart.shorten(1), 0);
         chart.moveRun(1, 0, 3);
-        // 1 2 3 0: the run 1 at the place 0 moves to 2 (1 2 3 0 -> 2 3 1 0), then 2 to the place 1
+        // 1 2 3 0 becomes 2 3 1 0 by the run at the place 0, then 3 2 1 0 by the one at the place 1
         Due.be("thread before", chart.count(1, 3), 192 + 60 + 100);
         Due.be("shorten(1)", chart.shorten(1), 2);
         Due.order("after shortening", chart, 1, 3, 2, 1, 0);
@@ -192,11 +192,29 @@ public final class RunTest {
         Due.be("shorten by new starts", starts.shorten(1), 2);
         Due.order("after shortening by new starts", starts, 1, 0, 2, 1, 3);
         Due.be("thread with new starts", starts.count(1, 3), 192 + 2 + 2 + 20 + 2);
+        shorteningToTheBegin();
+        shorteningInTwoPasses();
         StitchChart same = Due.chart("a.a.a.a");
         same.moveRun(1, 0, 3);
         same.setThread(0, 5);
         Due.be("moves that do not save are not made", same.shorten(1), 0);
         Due.order("order of moves that do not save", same, 1, 1, 2, 3, 0);
+    }
+
+    /** Of 1 2 3 4 0, only moving 0 to the begin saves. */
+    private static void shorteningToTheBegin() {
+        StitchChart chart = Due.chart("a.a.a.a.a");
+        chart.moveRun(1, 0, 4);
+        Due.be("shorten of 1 2 3 4 0", chart.shorten(1), 1);
+        Due.order("after shortening 1 2 3 4 0", chart, 1, 0, 1, 2, 3, 4);
+    }
+
+    /** 0 1 4 2 3 becomes 4 0 1 2 3, and in the next pass 0 1 2 4 3 and 0 1 2 3 4. */
+    private static void shorteningInTwoPasses() {
+        StitchChart chart = Due.chart("a.a.a.a.a");
+        chart.moveRun(1, 4, 2);
+        Due.be("shorten of 0 1 4 2 3", chart.shorten(1), 3);
+        Due.order("after shortening 0 1 4 2 3", chart, 1, 0, 1, 2, 3, 4);
     }
 
     private static void setThreadAnswersThePrevious() {
