@@ -1,3 +1,5 @@
+import java.util.Arrays;
+
 /** Compares answers with those that are due, and ends a test. */
 final class Due {
     private static int wrong = 0;
@@ -17,6 +19,20 @@ final class Due {
         if (wrong != 0) {
             System.exit(1);
         }
+    }
+
+    /** Values out of every range that a byte, a short or 31 bits would take for the given one. */
+    static int[] wrapped(int value) {
+        return new int[] {value + 256, value - 256, value + 65536, value - 65536, value + Integer.MIN_VALUE};
+    }
+
+    /** The least and greatest numbers, one too small, one too large, and what wraps around into the range. */
+    static int[] outside(int least, int most) {
+        int[] plain = {least - 1, most + 1, Integer.MIN_VALUE, Integer.MAX_VALUE};
+        int[] around = wrapped(most);
+        int[] all = Arrays.copyOf(plain, plain.length + around.length);
+        System.arraycopy(around, 0, all, plain.length, around.length);
+        return all;
     }
 
     /** Types a text; its characters all find room. */

@@ -1,7 +1,10 @@
 /** Long runs of mixed calls must get the answers of NaiveChart. The calls are the same each time. */
 public final class ModelTest {
-    private static final int RUNS = 60;
-    private static final int CALLS = 512;
+    private static final int RUNS = 200;
+    /** What later calls answer is free. */
+    private static final int MOST_CALLS = 512;
+    /** Typing a text and reading it takes the most. */
+    private static final int MOST_CALLS_AT_ONCE = 18;
 
     private long seed;
     private final StitchChart chart = new StitchChart();
@@ -9,6 +12,7 @@ public final class ModelTest {
     private int width = 10;
     private int height = 8;
     private int colors;
+    private int calls;
 
     private ModelTest(long seed) {
         this.seed = seed;
@@ -18,11 +22,16 @@ public final class ModelTest {
     public static void main(String[] args) {
         for (int run = 0; run < RUNS; run++) {
             ModelTest test = new ModelTest(run);
-            for (int call = 0; call < CALLS; call++) {
-                test.callOnce("run " + run + ", call " + call + ": ");
+            while (test.calls <= MOST_CALLS - MOST_CALLS_AT_ONCE) {
+                test.callOnce("run " + run + ", call " + (test.calls + 1) + " or later: ");
             }
         }
         Due.end();
+    }
+
+    private void due(String call, int got, int want) {
+        calls++;
+        Due.be(call, got, want);
     }
 
     /** A number below the bound; no random source, so that each failure comes again. */
@@ -91,7 +100,7 @@ public final class ModelTest {
                 break;
             case 1:
                 int rounds = about(1, 20);
-                Due.be(when + "merge(" + rounds + ")", chart.merge(rounds), naive.merge(rounds));
+                due(when + "merge(" + rounds + ")", chart.merge(rounds), naive.merge(rounds));
                 break;
             case 2:
             case 3:
@@ -102,11 +111,11 @@ public final class ModelTest {
             case 6:
                 int wide = about(1, 5);
                 int high = about(1, 3);
-                Due.be(when + "fill(" + x + ", " + y + ", " + wide + ", " + high + ", " + color + ")",
+                due(when + "fill(" + x + ", " + y + ", " + wide + ", " + high + ", " + color + ")",
                         chart.fill(x, y, wide, high, color), naive.fill(x, y, wide, high, color));
                 break;
             default:
-                Due.be(when + "setCell(" + x + ", " + y + ", " + color + ")",
+                due(when + "setCell(" + x + ", " + y + ", " + color + ")",
                         chart.setCell(x, y, color), naive.setCell(x, y, color));
                 break;
         }
@@ -114,7 +123,7 @@ public final class ModelTest {
 
     private void reset(String when, int newWidth, int newHeight) {
         int cells = naive.reset(newWidth, newHeight);
-        Due.be(when + "reset(" + newWidth + ", " + newHeight + ")", chart.reset(newWidth, newHeight), cells);
+        due(when + "reset(" + newWidth + ", " + newHeight + ")", chart.reset(newWidth, newHeight), cells);
         if (cells > 0) {
             width = newWidth;
             height = newHeight;
@@ -123,15 +132,15 @@ public final class ModelTest {
 
     private void readText(String when) {
         if (below(3) > 0) {
-            Due.be(when + "clearText()", chart.clearText(), naive.clearText());
+            due(when + "clearText()", chart.clearText(), naive.clearText());
         }
         String signs = below(3) == 0 ? "0123456789abcdef./g" : "12ab.cd/f";
         int length = between(0, 16);
         for (int typed = 0; typed < length; typed++) {
             char sign = below(60) == 0 ? (char) below(65536) : signs.charAt(below(signs.length()));
-            Due.be(when + "type", chart.type(sign), naive.type(sign));
+            due(when + "type", chart.type(sign), naive.type(sign));
         }
-        Due.be(when + "readChart()", chart.readChart(), naive.readChart());
+        due(when + "readChart()", chart.readChart(), naive.readChart());
     }
 
     private void changeOther(String when) {
@@ -143,34 +152,34 @@ public final class ModelTest {
             case 0:
                 int reach = below(2) == 0 ? about(0, 200) : about(0, 1000);
                 int tail = about(0, 200);
-                Due.be(when + "setThread(" + reach + ", " + tail + ")",
+                due(when + "setThread(" + reach + ", " + tail + ")",
                         chart.setThread(reach, tail), naive.setThread(reach, tail));
                 break;
             case 1:
                 int overlap = about(0, 3);
-                Due.be(when + "setPages(" + (from + 3) + ", " + (to + 3) + ", " + overlap + ")",
+                due(when + "setPages(" + (from + 3) + ", " + (to + 3) + ", " + overlap + ")",
                         chart.setPages(from + 3, to + 3, overlap), naive.setPages(from + 3, to + 3, overlap));
                 break;
             case 2:
-                Due.be(when + "firstOrder(" + color + ")", chart.firstOrder(color), naive.firstOrder(color));
+                due(when + "firstOrder(" + color + ")", chart.firstOrder(color), naive.firstOrder(color));
                 break;
             case 3:
-                Due.be(when + "shorten(" + color + ")", chart.shorten(color), naive.shorten(color));
+                due(when + "shorten(" + color + ")", chart.shorten(color), naive.shorten(color));
                 break;
             case 4:
                 if (below(4) == 0) {
-                    Due.be(when + "outline(" + color + ")", chart.outline(color), naive.outline(color));
+                    due(when + "outline(" + color + ")", chart.outline(color), naive.outline(color));
                 }
                 break;
             case 5:
                 boolean on = below(4) > 0;
                 int x = about(0, width);
                 int y = about(0, height);
-                Due.be(when + "setBack(" + x + ", " + y + ", " + upright + ", " + on + ")",
+                due(when + "setBack(" + x + ", " + y + ", " + upright + ", " + on + ")",
                         chart.setBack(x, y, upright, on), naive.setBack(x, y, upright, on));
                 break;
             default:
-                Due.be(when + "moveRun(" + color + ", " + from + ", " + to + ")",
+                due(when + "moveRun(" + color + ", " + from + ", " + to + ")",
                         chart.moveRun(color, from, to), naive.moveRun(color, from, to));
                 break;
         }
@@ -181,19 +190,19 @@ public final class ModelTest {
         int y = y();
         int color = color();
         int what = about(0, 4);
-        Due.be(when + "cell(" + x + ", " + y + ")", chart.cell(x, y), naive.cell(x, y));
-        Due.be(when + "isLone(" + x + ", " + y + ")", chart.isLone(x, y), naive.isLone(x, y));
-        Due.be(when + "pageOf(" + x + ", " + y + ")", chart.pageOf(x, y), naive.pageOf(x, y));
-        Due.be(when + "count(" + color + ", " + what + ")", chart.count(color, what), naive.count(color, what));
+        due(when + "cell(" + x + ", " + y + ")", chart.cell(x, y), naive.cell(x, y));
+        due(when + "isLone(" + x + ", " + y + ")", chart.isLone(x, y), naive.isLone(x, y));
+        due(when + "pageOf(" + x + ", " + y + ")", chart.pageOf(x, y), naive.pageOf(x, y));
+        due(when + "count(" + color + ", " + what + ")", chart.count(color, what), naive.count(color, what));
     }
 
     private void askOrders(String when) {
         int color = color();
         int run = about(0, 8);
         int what = about(0, 3);
-        Due.be(when + "run(" + color + ", " + run + ", " + what + ")",
+        due(when + "run(" + color + ", " + run + ", " + what + ")",
                 chart.run(color, run, what), naive.run(color, run, what));
-        Due.be(when + "runAt(" + color + ", " + run + ")", chart.runAt(color, run), naive.runAt(color, run));
+        due(when + "runAt(" + color + ", " + run + ")", chart.runAt(color, run), naive.runAt(color, run));
     }
 
     private void askPagesAndBacks(String when) {
@@ -203,15 +212,15 @@ public final class ModelTest {
         int x = about(0, width);
         int y = about(0, height);
         boolean upright = below(2) == 0;
-        Due.be(when + "pages()", chart.pages(), naive.pages());
-        Due.be(when + "page(" + page + ", " + what + ")", chart.page(page, what), naive.page(page, what));
-        Due.be(when + "onPage(" + page + ", " + color + ", " + what + ")",
+        due(when + "pages()", chart.pages(), naive.pages());
+        due(when + "page(" + page + ", " + what + ")", chart.page(page, what), naive.page(page, what));
+        due(when + "onPage(" + page + ", " + color + ", " + what + ")",
                 chart.onPage(page, color, what), naive.onPage(page, color, what));
-        Due.be(when + "back(" + x + ", " + y + ", " + upright + ")",
+        due(when + "back(" + x + ", " + y + ", " + upright + ")",
                 chart.back(x, y, upright), naive.back(x, y, upright));
-        Due.be(when + "backs(" + what + ")", chart.backs(what), naive.backs(what));
+        due(when + "backs(" + what + ")", chart.backs(what), naive.backs(what));
         if (below(60) == 0) {
-            Due.be(when + "clearBack()", chart.clearBack(), naive.clearBack());
+            due(when + "clearBack()", chart.clearBack(), naive.clearBack());
         }
     }
 }
