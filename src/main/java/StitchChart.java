@@ -374,9 +374,15 @@ public final class StitchChart {
                 return 0;
             }
             colors[y * MOST_SIDE + x] = color;
-            touched[before] = true;
-            touched[color] = true;
+            touch(before);
+            touch(color);
             return 1;
+        }
+
+        private void touch(int color) {
+            if (isWithin(color, 0, COLORS)) {
+                touched[color] = true;
+            }
         }
 
         int putRow(int x, int y, int length, int color) {
@@ -882,8 +888,9 @@ public final class StitchChart {
             return 1 + (side - shown + step - 1) / step;
         }
 
+        /** At least one, as pages are divided by it. */
         private int pagesAcross() {
-            return pagesAlong(grid.width, columns);
+            return Math.max(1, pagesAlong(grid.width, columns));
         }
 
         int total() {

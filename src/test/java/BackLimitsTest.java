@@ -447,9 +447,12 @@ public final class BackLimitsTest {
         StitchChart chart = checkered();
         Due.be("outline of a checkered chart", chart.outline(1), 1152);
         dueBacks("a checkered chart", chart, 1152, 1, 1, 23040 + 60, 0);
+        chart.setBack(23, 0, false, true);
+        chart.setBack(0, 23, true, true);
+        dueBacks("all 625 points", chart, 1154, 1, 2, 23080 + 120, 4);
         chart.setBack(24, 23, true, false);
         chart.setBack(0, 0, true, false);
-        dueBacks("with two gaps", chart, 1150, 1, 2, 23000 + 120, 4);
+        dueBacks("with two gaps", chart, 1152, 1, 4, 23040 + 240, 8);
     }
 
     private static void theMostGroups() {

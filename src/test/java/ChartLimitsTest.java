@@ -50,6 +50,7 @@ public final class ChartLimitsTest {
         mergeMakesNoMoreRoundsThanAsked();
         mergeEndsWhenARoundChangesNothing();
         mergingReachesTheLastCell();
+        narrowChartsHaveLoneStitches();
         mergingNeedsOneNeighbor();
         mergingDoesNotCountEmptyOnes();
         mergingTakesTheLowestOfSeveral();
@@ -228,6 +229,9 @@ public final class ChartLimitsTest {
             Due.be("setCell to " + color, chart.setCell(4, 4, color), 3);
             Due.be("cell of " + color, chart.cell(4, 4), color);
         }
+        chart.setCell(7, 2, 2);
+        Due.be("previous color where x and y differ", chart.setCell(7, 2, 5), 2);
+        chart.setCell(7, 2, 0);
         for (int color : Due.outside(0, 6)) {
             Due.be("setCell to " + color, chart.setCell(4, 4, color), StitchChart.BAD_VALUE);
             Due.be("cell after " + color, chart.cell(4, 4), 6);
@@ -416,6 +420,25 @@ public final class ChartLimitsTest {
             Due.be("merging at " + corner[0] + ", " + corner[1], chart.merge(1), 1);
             Due.be("cell " + corner[0] + ", " + corner[1], chart.cell(corner[0], corner[1]), 3);
         }
+    }
+
+    private static void narrowChartsHaveLoneStitches() {
+        StitchChart wide = new StitchChart();
+        wide.reset(24, 1);
+        wide.setCell(23, 0, 6);
+        Due.be("lone at the end of 24 by 1", wide.isLone(23, 0), 1);
+        Due.be("lone stitches of 24 by 1", wide.count(6, 1), 1);
+        wide.fill(21, 0, 2, 1, 2);
+        Due.be("merging at the end of 24 by 1", wide.merge(20), 1);
+        Due.be("the end of 24 by 1", wide.cell(23, 0), 2);
+        StitchChart high = new StitchChart();
+        high.reset(1, 24);
+        high.setCell(0, 23, 6);
+        Due.be("lone at the end of 1 by 24", high.isLone(0, 23), 1);
+        Due.be("lone stitches of 1 by 24", high.count(6, 1), 1);
+        high.fill(0, 21, 1, 2, 2);
+        Due.be("merging at the end of 1 by 24", high.merge(20), 1);
+        Due.be("the end of 1 by 24", high.cell(0, 23), 2);
     }
 
     private static void mergingNeedsOneNeighbor() {
